@@ -5,6 +5,7 @@ public final class ActionTest {
 
     public static void main(String[] args) {
         addRoom();
+        addRoomBehindUndo();
         setRoom();
         window();
         set();
@@ -45,15 +46,41 @@ public final class ActionTest {
         Check.due("the new room's heat", x.place(7, 0), 300);
     }
 
+    // What the undone room had must not come back with a new one.
+    private static void addRoomBehindUndo() {
+        MixerStation x = Check.station("M06060r32052");
+        x.addRoom(1, 16, 5, 9);
+        x.outside(15);
+        x.pass(1);
+        x.window(1, true);
+        x.outside(-20);
+        x.pass(60);
+        x.outside(40);
+        x.pass(60);
+        Check.isTrue("the room had all kinds of minutes", x.room(1, 4) > 0 && x.room(1, 5) > 0 && x.room(1, 6) > 0);
+        for (int k = 0; k < 8; k++) {
+            x.undo();
+        }
+        x.addRoom(9, 20, 1, 1);
+        int[] due = {20, 1, 1, 0, 0, 0, 0};
+        for (int what = 0; what < due.length; what++) {
+            Check.due("room(1, " + what + ") behind undo", x.room(1, what), due[what]);
+        }
+        Check.due("its heat behind undo", x.place(3, 0), 1350);
+        Check.due("moved(9, 3) behind undo", x.moved(9, 3), 1350);
+    }
+
     private static void setRoom() {
-        MixerStation x = Check.station("M06060r32052r91499");
+        MixerStation x = Check.station("M06060r32052r91478");
         Check.due("setRoom(1, 0, 25)", x.setRoom(1, 0, 25), 14);
         Check.due("setRoom(1, 0, 10)", x.setRoom(1, 0, 10), 25);
-        Check.due("setRoom(1, 1, 1)", x.setRoom(1, 1, 1), 9);
+        Check.due("setRoom(1, 1, 1)", x.setRoom(1, 1, 1), 7);
         Check.due("setRoom(1, 1, 9)", x.setRoom(1, 1, 9), 1);
-        Check.due("setRoom(1, 2, 0)", x.setRoom(1, 2, 0), 9);
+        Check.due("setRoom(1, 2, 0)", x.setRoom(1, 2, 0), 8);
         Check.due("setRoom(1, 2, 9)", x.setRoom(1, 2, 9), 0);
         Check.due("room(1, 0)", x.room(1, 0), 10);
+        Check.due("room(1, 1)", x.room(1, 1), 9);
+        Check.due("room(1, 2)", x.room(1, 2), 9);
         Check.due("the other room", x.room(0, 0), 20);
         int[][] wrong = {{0, 9}, {0, 26}, {1, 0}, {1, 10}, {2, -1}, {2, 10}, {3, 5}, {-1, 15}};
         for (int[] a : wrong) {

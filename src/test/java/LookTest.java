@@ -97,6 +97,17 @@ public final class LookTest {
         Check.due("whyOff() at 35 degrees", hot.whyOff(), 2);
         hot.set(0, 0);
         Check.due("whyOff() at 35 degrees without power", hot.whyOff(), 2);
+        MixerStation at = Check.station("M20030s200s302s400");
+        at.pass(4);
+        Check.due("heat of the boiler at 30 degrees", at.place(0, 0), 1200);
+        Check.due("whyOff() while on at the setpoint", at.whyOff(), 0);
+        at.pass(2);
+        at.set(1, 40);
+        Check.due("heat of the boiler at 40 degrees", at.place(0, 0), 1400);
+        at.set(1, 35);
+        Check.due("whyOff() while off at the setpoint", at.whyOff(), 2);
+        at.set(1, 36);
+        Check.due("whyOff() while resting below the setpoint", at.whyOff(), 4);
         MixerStation hottest = Check.station("M20080s230s300s400");
         hottest.pass(14);
         Check.due("whyOff() at 90 degrees", hottest.whyOff(), 2);
@@ -125,8 +136,12 @@ public final class LookTest {
         Check.due("whyShare() of a warm loop", x.whyShare(), 2);
         MixerStation y = Check.station("M00060s401s760");
         Check.due("whyShare() with a target of 10 and a pinch", y.whyShare(), 4);
+        // 15 * 2 / 10 = 3 degrees are missing, at 10 degrees outside 2.
         y.set(4, 2);
         Check.due("whyShare() with a target of 30 and a pinch", y.whyShare(), 3);
+        y.outside(10);
+        Check.due("whyShare() with a target of 20 and a pinch", y.whyShare(), 4);
+        y.outside(5);
         y.set(7, 0);
         Check.due("whyShare() with a target of 30", y.whyShare(), 4);
         // 9 degrees are missing: 90; with 10 degrees it is 100.

@@ -257,9 +257,14 @@ public final class MinuteTest {
         x.pass(60);
         // Difference 1 to 3 gives 1 a minute: the room (10 a degree) comes up to the loop.
         Check.due("rooms: at least 1, until the loop is not warmer", x.place(2, 1) >= x.place(1, 1) ? 1 : 0, 1);
-        int moved = x.moved(1, 2);
-        x.pass(10);
-        Check.due("rooms: nothing from a loop that is not warmer", x.moved(1, 2), moved);
+        MixerStation y = Check.station("M00060r12510s400s601");
+        for (int k = 0; k < 60 && y.place(2, 1) < y.place(1, 1); k++) {
+            y.pass(1);
+        }
+        Check.due("rooms: the room is as warm as the loop", y.place(2, 1), y.place(1, 1));
+        int moved = y.moved(1, 2);
+        y.pass(1);
+        Check.due("rooms: nothing from a loop that is not warmer", y.moved(1, 2), moved);
     }
 
     private static void leaks() {
@@ -283,6 +288,22 @@ public final class MinuteTest {
         x.pass(1);
         Check.due("leak: 102 / 8 is 12", x.moved(2, 8), 51);
         belowZero();
+        leaksOfTheSecond();
+    }
+
+    private static void leaksOfTheSecond() {
+        // 8 * (15 - 7) / 8 = 8 out of the second room, none out of the first.
+        MixerStation x = Check.station("M00060r91010r51018o+07");
+        x.pass(1);
+        Check.due("leak: the second room", x.moved(3, 8), 8);
+        Check.due("leak: its heat", x.place(3, 0), 742);
+        Check.due("leak: the first room", x.place(2, 0), 1350);
+        // The second room has 14 degrees now: 8 * (14 - 20) / 8 = -6.
+        x.outside(20);
+        x.pass(1);
+        Check.due("leak: into the second room", x.moved(8, 3), 6);
+        Check.due("leak: its heat again", x.place(3, 0), 748);
+        Check.due("leak: nothing into the first room", x.moved(8, 2), 0);
     }
 
     private static void belowZero() {

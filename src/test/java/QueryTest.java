@@ -27,6 +27,8 @@ public final class QueryTest {
         }
         Check.thrownUnchanged(x, "setting(9)", Check.ARGUMENT, () -> x.setting(9));
         Check.thrownUnchanged(x, "place(0, 3)", Check.ARGUMENT, () -> x.place(0, 3));
+        Check.thrownUnchanged(x, "moved(10, 0)", Check.ARGUMENT, () -> x.moved(10, 0));
+        Check.thrownUnchanged(x, "moved(0, 10)", Check.ARGUMENT, () -> x.moved(0, 10));
         Check.thrownUnchanged(x, "moved(10, 10)", Check.ARGUMENT, () -> x.moved(10, 10));
         int rooms = x.about(0);
         Check.thrownUnchanged(x, "room behind the last", Check.INDEX, () -> x.room(rooms, 0));

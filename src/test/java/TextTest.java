@@ -157,6 +157,12 @@ public final class TextTest {
         x.pass(60);
         x.save(0);
         x.save(1);
+        x.outside(-10);
+        x.pass(60);
+        x.simulate(1, 60);
+        x.set(8, 30);
+        x.pass(40);
+        x.ahead(0, 33);
         Check.type(x, "M08050r32052o+10s412r11091o-05s415");
         Check.due("load()", x.load(), 2);
         int[] due = {2, 0, -5, 0, 0, 0, 0, 0, 57, 0, 2000 + 450 + 150, 2, 0};
@@ -181,6 +187,27 @@ public final class TextTest {
         Check.thrown("loaded: restore(1)", Check.STATE, () -> x.restore(1));
         Check.due("loaded: the text is kept", x.clearText(), 34);
         refusedLoadKeepsAll();
+        loadBehindLooks();
+    }
+
+    // Whatever was looked at before, a loaded station is like one that nobody looked at.
+    private static void loadBehindLooks() {
+        String text = "M08050r32052r11091o-05";
+        String due = Check.picture(Check.station(text));
+        MixerStation x = Check.station(text);
+        x.pass(60);
+        x.ahead(0, 7);
+        x.load();
+        Check.isTrue("load() behind ahead in winter", Check.picture(x).equals(due));
+        x.outside(30);
+        x.pass(60);
+        x.ahead(0, 31);
+        x.load();
+        Check.isTrue("load() behind ahead in summer", Check.picture(x).equals(due));
+        x.outside(30);
+        x.ahead(0, 20);
+        x.load();
+        Check.isTrue("load() behind ahead with a counter", Check.picture(x).equals(due));
     }
 
     private static void refusedLoadKeepsAll() {
