@@ -190,7 +190,10 @@ public final class LookTest {
 
     private static void bestSlope() {
         Check.due("bestSlope(5) without rooms", new MixerStation().bestSlope(5), MixerStation.NONE);
-        String[] texts = {"M12060r32052r91499o-05", "M20080r11099", "M08060r92533r12011o-20s230", "M00030r51555"};
+        String[] texts = {"M12060r32052r91499o-05", "M20080r11099", "M08060r92533r12011o-20s230", "M00030r51555",
+            "M20080r92599o+10s550s620s700"};
+        MixerStation steep = Check.station(texts[4]);
+        Check.due("bestSlope(120) of a slow room", steep.bestSlope(120), 30);
         for (String text : texts) {
             MixerStation x = Check.station(text);
             x.pass(20);
@@ -220,7 +223,12 @@ public final class LookTest {
         // The loop brings the room 1 unit a minute: 90 units are missing.
         Check.due("leastPower(89)", x.leastPower(89), MixerStation.NONE);
         Check.due("leastPower(90)", x.leastPower(90), 0);
+        MixerStation most = Check.station("M00080r92595o-10s550s620");
+        Check.due("leastPower(30), a minute too few", most.leastPower(30), MixerStation.NONE);
+        Check.due("leastPower(31) with all the power", most.leastPower(31), 200);
+        Check.due("leastPower(32)", most.leastPower(32), 190);
         byTrying("M20060r32052o-05", 60);
+        byTrying("M00080r92595o-10s550s620", 31);
         byTrying("M00080r32052r31952o-05", 120);
         byTrying("M00080r32593o-20", 240);
         atDifferentMinutes();
