@@ -3,6 +3,7 @@ public final class SlotTest {
     public static void main(String[] args) {
         refusals();
         saveAndRestore();
+        newRoomBehindRestore();
         Check.end("SlotTest");
     }
 
@@ -48,5 +49,22 @@ public final class SlotTest {
         x.pass(1);
         Check.due("restore is no action: one is remembered", x.undo(), 0);
         Check.due("the text is kept", x.clearText(), 12);
+    }
+
+    // What a room had that is gone with restore must not come back with a new one.
+    private static void newRoomBehindRestore() {
+        MixerStation x = Check.station("M06060r32052");
+        x.save(0);
+        x.addRoom(1, 16, 5, 9);
+        x.pass(5);
+        x.window(1, true);
+        x.pass(60);
+        x.restore(0);
+        x.addRoom(9, 20, 1, 2);
+        int[] due = {20, 1, 2, 0, 0, 0, 0};
+        for (int what = 0; what < due.length; what++) {
+            Check.due("room(1, " + what + ") behind restore", x.room(1, what), due[what]);
+        }
+        Check.due("its heat behind restore", x.place(3, 0), 1350);
     }
 }
