@@ -633,10 +633,13 @@ public final class MixerStation {
         }
 
         void note(int source, int goal, int amount) {
-            int k = find(source, goal);
-            if (k >= 0 && k < MOST_WAYS) {
-                sum[k] += amount;
-            } else if (count >= 0 && count < MOST_WAYS) {
+            for (int k = 0; k < count && k < MOST_WAYS; k++) {
+                if (from[k] == source && to[k] == goal) {
+                    sum[k] += amount;
+                    return;
+                }
+            }
+            if (count >= 0 && count < MOST_WAYS) {
                 from[count] = source;
                 to[count] = goal;
                 sum[count] = amount;
@@ -645,17 +648,12 @@ public final class MixerStation {
         }
 
         int sumBetween(int source, int goal) {
-            int k = find(source, goal);
-            return k >= 0 && k < MOST_WAYS ? sum[k] : 0;
-        }
-
-        private int find(int source, int goal) {
             for (int k = 0; k < count && k < MOST_WAYS; k++) {
                 if (from[k] == source && to[k] == goal) {
-                    return k;
+                    return sum[k];
                 }
             }
-            return -1;
+            return 0;
         }
     }
 
