@@ -1,3 +1,8 @@
+import java.io.IOException;
+import java.nio.file.Files;
+import java.nio.file.Path;
+import java.util.ArrayList;
+import java.util.List;
 import java.util.function.LongSupplier;
 
 /** Counts the answers that are not due, and ends the program as a test under ../shared/tests does. */
@@ -6,10 +11,20 @@ final class Check {
     static final Class<IllegalArgumentException> ARGUMENT = IllegalArgumentException.class;
     static final Class<IllegalStateException> STATE = IllegalStateException.class;
 
+    private static final Path DOCUMENT = Path.of("../shared/DOC.md");
+
     private static int right;
     private static int wrong;
+    private static final List<String> quotes = new ArrayList<>();
+    private static String quote = "";
 
     private Check() {
+    }
+
+    /** Names the words of the document that the next checks are about. */
+    static void sentence(String words) {
+        quote = "\"" + words + "\": ";
+        quotes.add(words);
     }
 
     static void due(String call, long got, long want) {
@@ -35,13 +50,29 @@ final class Check {
             right++;
         } else {
             wrong++;
-            System.out.println(fault);
+            System.out.println(quote + fault);
         }
     }
 
     static void end(String test) {
+        quote = "";
+        quotesStandInTheDocument();
         System.out.println(test + ": " + right + " right, " + wrong + " wrong");
         System.exit(wrong == 0 ? 0 : 1);
+    }
+
+    private static void quotesStandInTheDocument() {
+        if (!Files.exists(DOCUMENT)) {
+            return;
+        }
+        try {
+            String document = Files.readString(DOCUMENT).replaceAll("```text|`", "").replaceAll("\\s+", " ");
+            for (String words : quotes) {
+                isTrue("the document says \"" + words + "\": this", document.contains(words));
+            }
+        } catch (IOException e) {
+            isTrue("reading " + DOCUMENT, false);
+        }
     }
 
     static MixerStation station(String text) {
