@@ -23,6 +23,7 @@ public final class EdgeActionTest {
         eachIsAnAction();
         actionsWithoutEffect();
         undoIsNoAction();
+        roomsThatAreGone();
         fourteenStates();
         fourteenStatesAgain();
         refusedCallsAreNoActions();
@@ -373,6 +374,68 @@ public final class EdgeActionTest {
         Check.due("undo()", x.undo(), 0);
         Check.due("setting(0)", x.setting(0), 60);
         Check.thrown("undo()", Check.STATE, x::undo);
+    }
+
+    // A room that was there before, with its comfort, its open window and its ways, must leave nothing behind.
+    private static void roomsThatAreGone() {
+        for (int rooms = 0; rooms <= 5; rooms++) {
+            String text = "M12060" + "r91659".repeat(rooms) + "o+05";
+            Check.sentence("Takes back the last action that is remembered.");
+            MixerStation undone = Check.station(text);
+            for (int left = sixRoomsAndAnHour(undone); left > 0; left--) {
+                undone.undo();
+            }
+            asIfNewlyLoaded(undone, text);
+            Check.sentence("Replaces the state by the one in a save slot");
+            MixerStation restored = Check.station(text);
+            restored.save(1);
+            sixRoomsAndAnHour(restored);
+            restored.restore(1);
+            asIfNewlyLoaded(restored, text);
+            Check.sentence("Makes everything as in a new object, and then as the text tells");
+            MixerStation loaded = Check.station(text);
+            sixRoomsAndAnHour(loaded);
+            loaded.heatFor(240);
+            loaded.load();
+            asIfNewlyLoaded(loaded, text);
+        }
+    }
+
+    private static int sixRoomsAndAnHour(MixerStation x) {
+        int actions = 0;
+        while (x.about(0) < 6) {
+            x.addRoom(9, 15, 9, 9);
+            actions++;
+        }
+        for (int i = 0; i < 6; i++) {
+            x.window(i, true);
+        }
+        x.pass(60);
+        Check.isTrue("the last room had comfort", x.room(5, 4) > 0);
+        return actions + 7;
+    }
+
+    private static void asIfNewlyLoaded(MixerStation x, String text) {
+        MixerStation due = Check.station(text);
+        int rooms = due.about(0);
+        String name = " of " + rooms + " rooms";
+        for (int way = 0; way <= 99; way++) {
+            int sum = x.moved(way / 10, way % 10);
+            Check.due("moved(" + way / 10 + ", " + way % 10 + ")" + name, sum, due.moved(way / 10, way % 10));
+        }
+        Check.isTrue("the picture" + name, Check.picture(x).equals(Check.picture(due)));
+        Check.due("leastPower(60)" + name, x.leastPower(60), due.leastPower(60));
+        Check.due("bestSlope(60)" + name, x.bestSlope(60), due.bestSlope(60));
+        Check.due("simulate(1, 20)" + name, x.simulate(1, 20), due.simulate(1, 20));
+        if (rooms > 0) {
+            Check.due("window(0, true)" + name, x.window(0, true), 1);
+            due.window(0, true);
+        }
+        Check.due("pass(60)" + name, x.pass(60), due.pass(60));
+        Check.due("about(10)" + name, x.about(10), due.about(10));
+        Check.due("about(11)" + name, x.about(11), due.about(11));
+        Check.due("about(12)" + name, x.about(12), due.about(12));
+        Check.due("place(1, 0)" + name, x.place(1, 0), due.place(1, 0));
     }
 
     private static void fourteenStates() {
