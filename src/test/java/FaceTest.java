@@ -1,10 +1,7 @@
-import java.io.IOException;
 import java.lang.reflect.Constructor;
 import java.lang.reflect.Field;
 import java.lang.reflect.Method;
 import java.lang.reflect.Modifier;
-import java.nio.file.Files;
-import java.nio.file.Path;
 import java.util.ArrayList;
 import java.util.Arrays;
 import java.util.HashSet;
@@ -13,7 +10,7 @@ import java.util.Set;
 import java.util.TreeSet;
 import java.util.stream.Collectors;
 
-/** The public face, and the rules of ../shared/LANGUAGE.md that can be seen from outside or from the lines. */
+/** The public face, and what can be seen of the members of the class from outside. */
 public final class FaceTest {
     private static final String A = " IllegalArgumentException";
     private static final String S = " IllegalStateException";
@@ -28,13 +25,12 @@ public final class FaceTest {
         "int leastPower(int)" + A, "int heatFor(int)" + A, "int runScript(int,long)" + A,
         "long simulate(long,int)" + A, "int save(int)" + I, "int restore(int)" + I + S};
 
-    public static void main(String[] args) throws IOException {
+    public static void main(String[] args) {
         Class<?> face = MixerStation.class;
         Check.isTrue("the class is public and final",
                 Modifier.isPublic(face.getModifiers()) && Modifier.isFinal(face.getModifiers()));
         methods(face);
         members(face);
-        lines(Files.readAllLines(Path.of("src/main/java/MixerStation.java")));
         Check.end("FaceTest");
     }
 
@@ -80,26 +76,5 @@ public final class FaceTest {
             }
         }
         Check.isTrue("at most some twelve classes", face.getDeclaredClasses().length < 12);
-    }
-
-    private static void lines(List<String> lines) {
-        String[] ruledOut = {"import ", "package ", "catch", "finally", "->", "::", "assert ", "synchronized",
-            "Object", ".equals(", "instanceof", "new int[0", "System.out", "while (true)", "for (;;)"};
-        int head = -1;
-        for (int k = 0; k < lines.size(); k++) {
-            String line = lines.get(k);
-            for (String word : ruledOut) {
-                Check.isTrue("line " + (k + 1) + " is without " + word, !line.contains(word));
-            }
-            String code = line.strip();
-            int indent = line.length() - line.stripLeading().length();
-            if (code.endsWith("{") && !code.contains("class ") && indent <= 8 && head < 0) {
-                head = k;
-            } else if (head >= 0 && code.equals("}")
-                    && indent == lines.get(head).length() - lines.get(head).stripLeading().length()) {
-                Check.isTrue("the method at line " + (head + 1) + " is short", k - head < 60);
-                head = -1;
-            }
-        }
     }
 }
